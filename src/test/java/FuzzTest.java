@@ -89,7 +89,7 @@ public final class FuzzTest {
         for (int i = 0; i < parts; i++) {
             if (i > 0) s.append(oneOf("+-*/+-*/<>="));
             while (random.nextInt(5) == 0) s.append('-');
-            int sort = random.nextInt(8);
+            int sort = random.nextInt(6);
             if (sort == 0 && depth < 5) s.append('(').append(expression(depth + 1)).append(')');
             else if (sort < 3) s.append(random.nextInt(random.nextBoolean() ? 20 : 1000));
             else s.append(oneOf("hglwn"));
