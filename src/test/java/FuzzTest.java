@@ -345,7 +345,8 @@ public final class FuzzTest {
     public static void main(String[] args) {
         int runs = args.length > 0 ? Integer.parseInt(args[0]) : 300;
         long first = args.length > 1 ? Long.parseLong(args[1]) : 1;
-        for (int i = 0; i < runs && wrong < 6; i++) new FuzzTest(first + i).run(120);
+        int calls = args.length > 2 ? Integer.parseInt(args[2]) : 120;
+        for (int i = 0; i < runs && wrong < 6; i++) new FuzzTest(first + i).run(calls);
         System.out.println("FuzzTest: " + runs + " runs, " + wrong + " answers are not as due");
         if (wrong != 0) System.exit(1);
     }
