@@ -27,6 +27,11 @@ final class Checks {
         due(what, got ? 1 : 0, want ? 1 : 0);
     }
 
+    void due(String what, String got, String want) {
+        due(what, got.equals(want), true);
+        if (!got.equals(want)) System.out.println("is:" + got + "\ndue:" + want);
+    }
+
     void noSuchElement(String what, Call call) {
         int thrown = 0;
         try {
@@ -44,6 +49,44 @@ final class Checks {
             due(what + ", row(" + i + ")", x.row(i), numbers[i]);
         }
         noSuchElement(what + ", behind the ROW", () -> x.row(numbers.length));
+    }
+
+    /** Both are used up by this. */
+    void alike(String what, ThornHedge x, ThornHedge twin, boolean row, boolean text) {
+        String is = Twins.all(x, row, text), due = Twins.all(twin, row, text);
+        due(what + ", nothing changes", is, due);
+    }
+
+    /** The call answers this, and nothing at all is changed by it. */
+    void refused(String what, Twins.Maker maker, Twins.Asked asked, long due) {
+        ThornHedge x = maker.make();
+        due(what, Twins.answer(x, asked), due);
+        alike(what, x, maker.make(), true, true);
+    }
+
+    void refused(String what, Twins.Maker maker, Twins.Asked asked) {
+        refused(what, maker, asked, ThornHedge.NONE);
+    }
+
+    /** The call that reads THE TEXT answers this; nothing but THE TEXT, now empty, is changed. */
+    void refusedText(String what, Twins.Maker maker, String text, Twins.Asked asked, long due) {
+        ThornHedge x = Checks.text(maker.make(), text);
+        due(what + " of '" + text + "'", asked.of(x), due);
+        due(what + " of '" + text + "' empties THE TEXT", x.count(14), 0);
+        alike(what + " of '" + text + "'", x, maker.make(), true, false);
+    }
+
+    /** First and last are taken; those beside them and the farthest ints are refused. */
+    void range(String what, Twins.Maker maker, int from, int to, Twins.AskedWith asked) {
+        for (int v : new int[] {from, to}) due(what + " with " + v + " is taken", asked.of(maker.make(), v) != ThornHedge.NONE, true);
+        for (int v : Twins.outside(from, to)) refused(what + " with " + v, maker, x -> asked.of(x, v));
+    }
+
+    /** The question leaves all but the ROW as it was, THE TEXT too. */
+    void question(String what, Twins.Maker maker, Twins.Asked asked) {
+        ThornHedge x = maker.make();
+        asked.of(x);
+        alike(what, x, maker.make(), false, true);
     }
 
     void end() {
