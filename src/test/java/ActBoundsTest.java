@@ -30,6 +30,7 @@ public final class ActBoundsTest {
         undoNone();
         undoFifteen();
         undoSuchAsWereDone();
+        undoEachAct();
         undoLogAsOne();
         undoForgotten();
         keepBounds();
@@ -558,6 +559,20 @@ public final class ActBoundsTest {
         c.due("20: acts that change nothing were done", x.count(12), 5);
         for (int i = 4; i >= 0; i--) c.due("20: they are undone one by one", x.undo(), i);
         c.due("20: as ahead of all", x.mile(0, 0), 7);
+    }
+
+    private static void undoEachAct() {
+        Twins.Asked[] acts = {x -> x.price(0, 77), x -> x.price(1, 88), x -> x.guard(0, 7), x -> x.plant(0, 1), x -> x.gate(0), x -> x.gate(1), x -> x.weeks(0), x -> x.weeks(1), x -> x.weeks(60),
+            x -> Checks.text(x, "ma3").log()};
+        String[] names = {"price(0)", "price(1)", "guard", "plant", "gate", "gate of another", "no weeks", "a week", "sixty weeks", "log"};
+        for (int i = 0; i < acts.length; i++) {
+            ThornHedge x = Twins.some(), twin = Twins.some();
+            int can = x.count(12);
+            c.due("20: " + names[i] + " is done", acts[i].of(x) >= 0, true);
+            c.due("20: " + names[i] + " can be undone", x.count(12), can + 1);
+            c.due("20: " + names[i] + " is undone", x.undo(), can);
+            c.alike("20: " + names[i] + ", as ahead of it", x, twin, false, false);
+        }
     }
 
     private static void undoLogAsOne() {

@@ -1,3 +1,5 @@
+import java.math.BigInteger;
+
 /** The boundary cases of promises 21 to 42, each sentence by itself. */
 public final class QuestionBoundsTest {
     private static final Checks c = new Checks("QuestionBoundsTest");
@@ -13,6 +15,7 @@ public final class QuestionBoundsTest {
         holdsBounds();
         keepsBounds();
         taxBounds();
+        taxAtEachDear();
         withoutBounds();
         withoutHalf();
         beatsBounds();
@@ -274,6 +277,31 @@ public final class QuestionBoundsTest {
         c.row("25: some go without", poor, 25, 1);
     }
 
+    private static void taxAtEachDear() {
+        // DANGER 10: at 16 the load of 1 comes, up to 15 nothing does; DEAR is 20 now
+        ThornHedge x = Checks.made("2", "01");
+        Checks.text(x, "2,16;1,15").mouths();
+        c.due("25: loads at that DEAR, not at this one", x.tax(), 15);
+        c.row("25: three by 10, not two less one by 11", x, 30, 0);
+        x.price(1, 0);
+        c.due("25: whatever DEAR is now", x.tax(), 15);
+        // camels go above 20 and eat 2 of 9; baskets go behind them above 35
+        ThornHedge each = Checks.made("9", "11;01");
+        each.price(0, 0);
+        Checks.text(each, "2,22").mouths();
+        c.due("25: two by 20, not one by 22", each.tax(), 20);
+        c.row("25: two by 20, not one by 22", each, 40, 0);
+        Checks.text(each, "1,35").mouths();
+        c.due("25: three by 20", each.tax(), 20);
+        c.row("25: three by 20", each, 60, 0);
+        ThornHedge eaten = Checks.made("9", "11;01");
+        eaten.price(0, 0);
+        Checks.text(eaten, "3,36").mouths();
+        // at 35 just the camels come, as what they ate at 21 to 34 does not count
+        c.due("25: each DEAR as all is now", eaten.tax(), 35);
+        c.row("25: two by 35", eaten, 70, 0);
+    }
+
     private static void withoutBounds() {
         ThornHedge x = Checks.text(new ThornHedge(), "1,0;2,1;4,98;8,99");
         x.mouths();
@@ -335,6 +363,11 @@ public final class QuestionBoundsTest {
         c.row("27: at the first", first, 2, 0, 0, 0, 0, 0, 0, 0, 0, 0, 0, 0);
         c.due("27: at the first, two more at the last", first.beats(4), 0);
         c.row("27: the least row", first, 2, 0, 0, 0, 0, 0, 0, 0, 0, 0, 0, 2);
+        ThornHedge none = Checks.made("000", "01;09");
+        for (int k = 0; k <= 4; k++) {
+            c.due("27: all comes over whatever " + k + " do", none.beats(k), 10);
+            c.row("27: as much comes over whatever " + k + " do, the least row", none, 0, 0, k);
+        }
         ThornHedge all = Checks.made("0000", "09");
         Checks.text(all, "g*999").rule();
         c.due("27: one at each", all.beats(4), 0);
@@ -554,6 +587,16 @@ public final class QuestionBoundsTest {
         }
         int[][] due = {{1, 90, 1}, {1, 91, 0}, {1, 81, 2}, {1, 82, 1}, {5, 50, 1}, {5, 51, 0}, {5, 25, 2}, {5, 26, 1}, {5, 13, 2}, {5, 12, 3}, {5, 1, 6}, {9, 10, 1}, {9, 11, 0}, {9, 1, 2}, {9, 2, 1}, {1, 28, 12}, {1, 29, 11}};
         for (int[] d : due) c.due("35: just so much or more, lasts(" + d[0] + ", " + d[1] + ")", x.lasts(d[0], d[1]), d[2]);
+        for (int p = 0; p <= 10; p++) {
+            for (int v = 0; v <= 100; v++) {
+                int most = 0;
+                for (int n = 1; n <= 12; n++) {
+                    BigInteger goesOn = BigInteger.valueOf(10 - p).pow(n).multiply(BigInteger.valueOf(100));
+                    if (goesOn.compareTo(BigInteger.TEN.pow(n).multiply(BigInteger.valueOf(v))) >= 0) most = n;
+                }
+                c.due("35: lasts(" + p + ", " + v + ")", x.lasts(p, v), most);
+            }
+        }
         c.due("35: tells no ROW", x.count(13), 0);
     }
 
@@ -659,6 +702,10 @@ public final class QuestionBoundsTest {
         c.row("40: the most less", x, 0, 720);
         c.due("40: 10 WEEKS, of which w is 0 twice", Checks.text(x, "999*(w>0)").law(), 144 - 720);
         c.row("40: 10 WEEKS", x, 144, 720);
+        // camels go by the law (0) and eat, not by THE RULE (45 less): baskets stay by THE RULE
+        ThornHedge camels = Checks.made("99", "11;01");
+        c.due("40: both as all is now", Checks.text(camels, "0").law(), 20);
+        c.row("40: what one law eats is not eaten for the other", camels, 20, 0);
     }
 
     // ---- rests, years

@@ -12,6 +12,8 @@ public final class TextBoundsTest {
         lineSigns();
         lineLengths();
         lineAnew();
+        lineOverAnother();
+        readTextsAreEmpty();
         carrierSigns();
         carrierEnds();
         carrierRoom();
@@ -26,6 +28,7 @@ public final class TextBoundsTest {
         ruleCompares();
         ruleLengths();
         ruleEmpty();
+        ruleBehindRefused();
         riskBounds();
         riskWeek();
         riskOthers();
@@ -171,6 +174,32 @@ public final class TextBoundsTest {
         c.due("4: anew, no men counted of what was", x.count(7), 9);
         Checks.text(x, "n").rule();
         c.due("4: anew, no other miles have men", x.danger(0, 11), 0);
+    }
+
+    private static void lineOverAnother() {
+        ThornHedge x = Checks.made("999", "");
+        Checks.text(x, "G").line();
+        c.due("4: G has HEDGE 0, whatever was there", x.mile(0, 0), 0);
+        Checks.text(x, "GGG").line();
+        c.due("4: nor is there one of miles that were gone", x.count(9), 0);
+        Checks.text(x, "000").line();
+        c.due("4: nor is there a GATE that was", x.count(8), 0);
+        Checks.text(x, "9").line();
+        Checks.text(x, "9").line();
+        c.due("4: the same anew", x.count(9), 9);
+    }
+
+    /** A call that reads THE TEXT empties it, when it is taken, too. */
+    private static void readTextsAreEmpty() {
+        String[] texts = {"5G", "01;12", "fr", "1,1", "h+g", "w1ga", "h"};
+        Twins.Asked[] reads = {ThornHedge::line, ThornHedge::carriers, ThornHedge::weather, ThornHedge::mouths, ThornHedge::rule, ThornHedge::log, ThornHedge::law};
+        int[] promise = {4, 5, 6, 7, 8, 19, 40};
+        for (int i = 0; i < texts.length; i++) {
+            ThornHedge x = Checks.text(new ThornHedge(), texts[i]);
+            c.due(promise[i] + ": '" + texts[i] + "' is taken", reads[i].of(x) >= 0, true);
+            c.due(promise[i] + ": THE TEXT is empty then", x.count(14), 0);
+            c.due(promise[i] + ": signs come anew", x.sign('5' << 24), 4);
+        }
     }
 
     // ---- promise 5
@@ -425,6 +454,23 @@ public final class TextBoundsTest {
         c.due("8: none again, h*5+g*10", x.danger(0, 0), 135);
     }
 
+    /** A text that was given up halfway leaves nothing in the next one. */
+    private static void ruleBehindRefused() {
+        String[] refused = {"-", "--", "9-", "9*-", "((", "-(-", "(1<", "1<2<", "9+(8*", "((((((", "1234", "5+", "-(5"};
+        String[] rules = {"5", "h+5", "(5)", "5<6", "1+2*2", "((((5))))", "-(0-5)"};
+        int[] due = {5, 5, 5, 1, 5, 5, 5};
+        for (String first : refused) {
+            for (int i = 0; i < rules.length; i++) {
+                ThornHedge x = Checks.made("0", "01");
+                c.due("8: '" + first + "' can't be", Checks.text(x, first).rule() < 0, true);
+                c.due("8: '" + rules[i] + "' behind '" + first + "'", Checks.text(x, rules[i]).rule(), 0);
+                c.due("8: RISK by '" + rules[i] + "' behind '" + first + "'", x.danger(0, 0), due[i]);
+                c.due("40: '" + first + "' can't be", Checks.text(x, first).law() < -1, true);
+                c.due("40: '" + rules[i] + "' behind '" + first + "'", Checks.text(x, rules[i]).law(), 0);
+            }
+        }
+    }
+
     private static void riskBounds() {
         String[] rules = {"0", "1", "999", "998+1", "999+1", "999*999", "0-1", "-1", "-999*999", "000", "009", "5/0", "5/0+3", "0/0+4", "-5/0+6", "7/(1-1)+8",
             "1/2+5", "-1/2+5", "1/-2+5", "7/2+5", "-7/2+5", "7/-2+5", "-7/-2+5", "999/1000000", "8/4/2", "8/(4/2)", "8-4-2", "8-(4-2)", "2*3/4", "3/4*2", "2+3*4", "2*3+4",
@@ -468,6 +514,23 @@ public final class TextBoundsTest {
         x.guard(3, 0);
         c.due("8: n, one less", x.danger(0, 0), 10);
         c.due("8: n, at the one without", x.danger(0, 3), 11);
+        int[] men = {1, 2, 1, 0, 9, 0, 1, 0};
+        for (int n : men) {
+            x.guard(3, n);
+            c.due("8: n, " + n + " MEN there", x.danger(0, 0), n > 0 ? 11 : 10);
+        }
+        x.undo();
+        c.due("8: n, undone", x.danger(0, 0), 11);
+        x.keep(0);
+        x.guard(3, 0);
+        x.guard(4, 0);
+        x.again(0);
+        c.due("8: n, again", x.danger(0, 0), 11);
+        ThornHedge load = Checks.made("9", "01;02;09");
+        Checks.text(load, "l").rule();
+        load.guard(0, 5);
+        load.weeks(3);
+        for (int i = 0; i < 3; i++) c.due("8: l is LOAD", load.danger(i, 0), load.carrier(i, 1));
     }
 
     // ---- promise 19
