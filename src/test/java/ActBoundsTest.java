@@ -139,6 +139,10 @@ public final class ActBoundsTest {
         c.due("10: of earth, at a GATE too", x.carrier(1, 3), 24);
         x.gate(11);
         c.due("10: the last MILE alone", x.carrier(0, 2), 11);
+        ThornHedge near = Checks.made("210", "09");
+        Checks.text(near, "h").rule();
+        c.due("10: 0 is less than 1", near.carrier(0, 2), 2);
+        c.due("10: 0 is the least", near.carrier(0, 3), 0);
         ThornHedge bread = Checks.made("00", "39");
         c.due("10: bread without a GATE, where", bread.carrier(0, 2), -1);
         c.due("10: bread without a GATE, DANGER", bread.carrier(0, 3), -1);
@@ -369,6 +373,14 @@ public final class ActBoundsTest {
         for (int i = 0; i < 400; i++) most.weeks(60);
         c.due("18: WEEK, far on", most.count(5), 401 * 60);
         c.due("18: OVER, far on", most.count(6), 401 * 4320);
+        ThornHedge turns = Checks.made("2", "01;29");
+        Checks.text(turns, "ffr").weather();
+        // baskets in fair weeks at first; the hedge of 3 is too much for them then
+        int[][] went = {{1, 1}, {1, 1}, {1, 3}, {1, 0}, {1, 0}, {1, 2}, {3, 2}, {0, 0}, {1, 0}};
+        for (int i = 0; i < went.length; i++) {
+            turns.weeks(went[i][0]);
+            c.due("18: who went in these, not in others, " + i, turns.row(0), went[i][1]);
+        }
         ThornHedge none = Checks.made("9", "01");
         none.weeks(9);
         c.row("18: nobody went", none, 0, 9);

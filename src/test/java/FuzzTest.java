@@ -122,6 +122,41 @@ public final class FuzzTest {
         return s.toString();
     }
 
+    /** A text about as long as the longest that is taken: parts with signs between, cut anywhere. */
+    private String nearLimit(int limit, String between, String... parts) {
+        StringBuilder s = new StringBuilder();
+        for (int i = 0; s.length() < limit + 4; i++) {
+            if (i > 0 && !between.isEmpty()) s.append(oneOf(between));
+            s.append(parts[random.nextInt(parts.length)]);
+        }
+        return s.substring(0, limit - 3 + random.nextInt(7));
+    }
+
+    private String longText(int reader) {
+        switch (reader) {
+            case 0: return nearLimit(12, "", "0", "5", "G", "99");
+            case 1: return nearLimit(23, ";", "09", "11", "25", "34", "48");
+            case 2: return nearLimit(20, "", "f", "dd", "r", "a");
+            case 3: return nearLimit(47, ";", "10,10", "99,99", "12,34", "5,5", "01,00", "77,7");
+            case 4: return nearLimit(40, "+-*/", "h", "g", "-l", "(w<3)", "123", "(h*(g+1))", "--n", "((((1)=2)+h)-5)", "0", "(-(g>l))");
+            default: return nearLimit(60, "", "w0", "w1", "ma3", "mb0", "pa1", "ga", "gb", "c05", "d20", "pl9");
+        }
+    }
+
+    private void longTexts() {
+        int reader = random.nextInt(7);
+        write(longText(reader == 6 ? 4 : reader));
+        switch (reader) {
+            case 0: same("line()", hedge::line, oracle::line); break;
+            case 1: same("carriers()", hedge::carriers, oracle::carriers); break;
+            case 2: same("weather()", hedge::weather, oracle::weather); break;
+            case 3: same("mouths()", hedge::mouths, oracle::mouths); break;
+            case 4: same("rule()", hedge::rule, oracle::rule); break;
+            case 5: same("log()", hedge::log, oracle::log); break;
+            default: same("law()", hedge::law, oracle::law);
+        }
+    }
+
     private String spoilt(String s) {
         int sort = random.nextInt(8);
         if (sort > 2) return s;
@@ -334,7 +369,8 @@ public final class FuzzTest {
     private void run(int calls) {
         for (int i = 0; i < calls && wrong < 6; i++) {
             int sort = random.nextInt(10);
-            if (sort < 2 || i < 6) tellCall();
+            if (random.nextInt(20) == 0) longTexts();
+            else if (sort < 2 || i < 6) tellCall();
             else if (sort < 5) actCall();
             else if (sort < 8) smallQuestion();
             else greatQuestion();

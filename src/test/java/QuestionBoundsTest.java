@@ -143,6 +143,15 @@ public final class QuestionBoundsTest {
         ThornHedge more = Checks.made("0G", "36;05");
         more.goes();
         c.row("21: the most", more, 11, 1);
+        ThornHedge both = Checks.made("0G", "02;33;02");
+        both.goes();
+        c.row("21: loads over a MILE together", both, 7, 0);
+        both.gate(0);
+        c.due("21: anew each time", both.goes(), 2);
+        c.row("21: loads of this WEEK alone", both, 3, 0);
+        both.price(1, 0);
+        c.due("21: nobody any more", both.goes(), 0);
+        c.row("21: nobody any more", both, 0, -1);
         ThornHedge earth = Checks.made("0G", "31;49");
         earth.goes();
         c.row("21: KIND 4 aside, though it brings more", earth, 10, 1);

@@ -409,6 +409,8 @@ public final class TextBoundsTest {
                 }
             }
         }
+        refusedAll("8: not one behind the other, ( ) between", ThornHedge::rule, -8, "h<(g<l)<n", "h=(g)+1>n", "1>(2=3)=4");
+        refusedAll("8: not one behind the other, deep ( ) between", ThornHedge::rule, -12, "h<((g<l)=1)<n");
         String[] rules = {"4<5", "5<5", "6<5", "4>5", "5>5", "6>5", "4=5", "5=5", "6=5", "0-1<0", "0=-0"};
         int[] due = {1, 0, 0, 0, 0, 1, 0, 1, 0, 1, 1};
         risks(rules, due);
