@@ -32,6 +32,10 @@ final class Checks {
         if (!got.equals(want)) System.out.println("is:" + got + "\ndue:" + want);
     }
 
+    int checked() {
+        return passed + wrong;
+    }
+
     void noSuchElement(String what, Call call) {
         int thrown = 0;
         try {
