@@ -391,20 +391,20 @@ public final class ActBoundsTest {
             ThornHedge x = Checks.made("" + h, "19");
             x.price(1, 99);
             x.weeks(1);
-            c.due("week: camels, 2 less than " + h + ", 0 at least", x.mile(0, 0), Math.max(0, h - 2));
+            c.due("18: WEEK, camels, 2 less than " + h + ", 0 at least", x.mile(0, 0), Math.max(0, h - 2));
         }
         ThornHedge x = Checks.made("5", "09;39;49;29");
         x.weeks(1);
-        c.due("week: of other KINDS no HEDGE is less", x.mile(0, 0), 5);
+        c.due("18: WEEK, of other KINDS no HEDGE is less", x.mile(0, 0), 5);
         ThornHedge twice = Checks.made("35", "19;19;19");
         // mile 0: 3, then 1, then 0
-        c.due("week: camels behind camels", twice.weeks(1), 27);
-        c.due("week: the first mile, 0 at least", twice.mile(0, 0), 0);
-        c.due("week: the other as it was", twice.mile(1, 0), 5);
+        c.due("18: WEEK, camels behind camels", twice.weeks(1), 27);
+        c.due("18: WEEK, the first mile, 0 at least", twice.mile(0, 0), 0);
+        c.due("18: WEEK, the other as it was", twice.mile(1, 0), 5);
         ThornHedge stay = Checks.made("5", "11");
         stay.price(1, 5);
         stay.weeks(1);
-        c.due("week: camels that do not GO", stay.mile(0, 0), 5);
+        c.due("18: WEEK, camels that do not GO", stay.mile(0, 0), 5);
     }
 
     private static void weekDry() {
@@ -412,12 +412,12 @@ public final class ActBoundsTest {
         Checks.text(x, "d").weather();
         x.weeks(1);
         int[] due = {0, 0, 1, 8, 0};
-        for (int m = 0; m < 5; m++) c.due("week: dry, 1 less, 0 at least, mile " + m, x.mile(m, 0), due[m]);
+        for (int m = 0; m < 5; m++) c.due("18: WEEK, dry, 1 less, 0 at least, mile " + m, x.mile(m, 0), due[m]);
         x.sheet(2, 5, 5, 0);
         x.weeks(1);
-        c.due("week: dry, of a GATE too", x.mile(4, 0), 4);
+        c.due("18: WEEK, dry, of a GATE too", x.mile(4, 0), 4);
         x.weeks(60);
-        c.due("week: dry, all 0", x.count(9), 0);
+        c.due("18: WEEK, dry, all 0", x.count(9), 0);
     }
 
     private static void weekRain() {
@@ -425,10 +425,10 @@ public final class ActBoundsTest {
         Checks.text(x, "r").weather();
         x.weeks(1);
         int[] due = {1, 9, 9, 1, 8};
-        for (int m = 0; m < 5; m++) c.due("week: rain, 1 more, 9 at most, of a GATE too, mile " + m, x.mile(m, 0), due[m]);
+        for (int m = 0; m < 5; m++) c.due("18: WEEK, rain, 1 more, 9 at most, of a GATE too, mile " + m, x.mile(m, 0), due[m]);
         x.weeks(60);
-        c.due("week: rain, all 9", x.count(9), 45);
-        c.due("week: it is a GATE yet", x.mile(3, 1), 1);
+        c.due("18: WEEK, rain, all 9", x.count(9), 45);
+        c.due("18: WEEK, it is a GATE yet", x.mile(3, 1), 1);
     }
 
     private static void weekAnts() {
@@ -438,16 +438,16 @@ public final class ActBoundsTest {
             for (int week = 0; week < 25; week++) {
                 x.sheet(2, 12, 9, 0);
                 x.weeks(1);
-                c.due("week: ants in WEEK " + week + " of " + miles + " miles", x.mile(week % miles, 0), 0);
-                c.due("week: ants, of one mile alone", x.count(9), 9 * (miles - 1));
+                c.due("18: WEEK, ants in WEEK " + week + " of " + miles + " miles", x.mile(week % miles, 0), 0);
+                c.due("18: WEEK, ants, of one mile alone", x.count(9), 9 * (miles - 1));
             }
         }
         ThornHedge gate = Checks.made("G", "");
         Checks.text(gate, "ra").weather();
         gate.weeks(1);
-        c.due("week: rain at a GATE", gate.mile(0, 0), 1);
+        c.due("18: WEEK, rain at a GATE", gate.mile(0, 0), 1);
         gate.weeks(1);
-        c.due("week: ants at a GATE", gate.mile(0, 0), 0);
+        c.due("18: WEEK, ants at a GATE", gate.mile(0, 0), 0);
     }
 
     // ---- promise 19

@@ -29,7 +29,7 @@ public final class FaceTest {
         c.end();
     }
 
-    private static void face() {
+    private static void face() throws Exception {
         Set<String> due = new TreeSet<>(Arrays.asList(FACE.split(" / ")));
         Set<String> is = new TreeSet<>();
         for (Method m : ThornHedge.class.getDeclaredMethods()) {
@@ -38,12 +38,19 @@ public final class FaceTest {
             for (Class<?> p : m.getParameterTypes()) s.append(s.charAt(s.length() - 1) == '(' ? "" : ",").append(p.getName());
             is.add(s.append(')').toString());
             c.due("face: " + m.getName() + " is public and of an object", m.getModifiers(), Modifier.PUBLIC);
+            boolean throwing = Arrays.asList("mile", "carrier", "mouth", "row").contains(m.getName());
+            String thrown = Arrays.toString(m.getExceptionTypes());
+            c.due("face: what " + m.getName() + " throws", thrown, throwing ? "[class java.util.NoSuchElementException]" : "[]");
         }
         c.due("face: methods " + is, is.equals(due), true);
         Constructor<?>[] made = ThornHedge.class.getDeclaredConstructors();
         c.due("face: constructors", made.length, 1);
         c.due("face: the constructor is public", made[0].getModifiers(), Modifier.PUBLIC);
         c.due("face: the class is public and final", ThornHedge.class.getModifiers(), Modifier.PUBLIC | Modifier.FINAL);
+        Field none = ThornHedge.class.getDeclaredField("NONE");
+        c.due("face: NONE is a public constant", none.getModifiers(), Modifier.PUBLIC | Modifier.STATIC | Modifier.FINAL);
+        c.due("face: NONE is an int", none.getType() == int.class, true);
+        c.due("face: NONE", none.getInt(null), -1);
         for (Field f : ThornHedge.class.getDeclaredFields()) {
             boolean open = f.getName().equals("NONE");
             c.due("face: field " + f.getName(), Modifier.isPrivate(f.getModifiers()), !open);

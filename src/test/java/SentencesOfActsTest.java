@@ -289,7 +289,7 @@ public final class SentencesOfActsTest {
         s.says("2: MEN");
         for (int m = 0; m < 3; m++) s.is("of " + m, x.mile(m, 2), new int[] {0, 7, 1}[m]);
         s.says("NoSuchElementException: none such, another what");
-        for (int m : new int[] {-1, 3, 11, 12, Integer.MIN_VALUE, Integer.MAX_VALUE}) for (int what = 0; what < 3; what++) none(x, m, what, (y, a, b) -> y.mile(a, b));
+        for (int m : new int[] {-1, 3, 4, 11, 12, Integer.MIN_VALUE, Integer.MAX_VALUE}) for (int what = 0; what < 3; what++) none(x, m, what, (y, a, b) -> y.mile(a, b));
         for (int what : new int[] {-1, 3, Integer.MIN_VALUE, Integer.MAX_VALUE}) for (int m = 0; m < 3; m++) none(x, m, what, (y, a, b) -> y.mile(a, b));
         for (Twins.Maker maker : MAKERS) s.refused("nothing changes", maker, y -> y.mile(12, 0), Twins.THROWN);
     }
@@ -328,7 +328,7 @@ public final class SentencesOfActsTest {
         s.is("GATES alone", Checks.made("G", "01").carrier(0, 3), -1);
         s.is("no GATE", Checks.made("0", "31").carrier(0, 3), -1);
         s.says("NoSuchElementException: likewise");
-        for (int i : new int[] {-1, 5, 8, Integer.MIN_VALUE, Integer.MAX_VALUE}) for (int what = 0; what < 4; what++) none(x, i, what, (y, a, b) -> y.carrier(a, b));
+        for (int i : new int[] {-1, 5, 6, 7, 8, Integer.MIN_VALUE, Integer.MAX_VALUE}) for (int what = 0; what < 4; what++) none(x, i, what, (y, a, b) -> y.carrier(a, b));
         for (int what : new int[] {-1, 4, Integer.MIN_VALUE, Integer.MAX_VALUE}) for (int i = 0; i < 5; i++) none(x, i, what, (y, a, b) -> y.carrier(a, b));
         for (Twins.Maker maker : MAKERS) s.refused("nothing changes", maker, y -> y.carrier(8, 2), Twins.THROWN);
     }
@@ -344,7 +344,7 @@ public final class SentencesOfActsTest {
         s.is("of 0", x.mouth(0, 1), 34);
         s.is("of 1", x.mouth(1, 1), 6);
         s.says("NoSuchElementException: likewise");
-        for (int i : new int[] {-1, 2, 8, Integer.MIN_VALUE, Integer.MAX_VALUE}) for (int what = 0; what < 2; what++) none(x, i, what, (y, a, b) -> y.mouth(a, b));
+        for (int i : new int[] {-1, 2, 3, 7, 8, Integer.MIN_VALUE, Integer.MAX_VALUE}) for (int what = 0; what < 2; what++) none(x, i, what, (y, a, b) -> y.mouth(a, b));
         for (int what : new int[] {-1, 2, Integer.MIN_VALUE, Integer.MAX_VALUE}) for (int i = 0; i < 2; i++) none(x, i, what, (y, a, b) -> y.mouth(a, b));
         for (Twins.Maker maker : MAKERS) s.refused("nothing changes", maker, y -> y.mouth(8, 0), Twins.THROWN);
     }
@@ -369,8 +369,8 @@ public final class SentencesOfActsTest {
         s.is("flood, in rain it can", x.danger(2, 0), 10);
         s.is("flood, in rain at a GATE", x.danger(2, 2), -2);
         s.says("NONE: none such");
-        for (int i : new int[] {-1, 5, Integer.MIN_VALUE, Integer.MAX_VALUE}) s.is("danger(" + i + ", 0)", x.danger(i, 0), -1);
-        for (int m : new int[] {-1, 3, Integer.MIN_VALUE, Integer.MAX_VALUE}) s.is("danger(0, " + m + ")", x.danger(0, m), -1);
+        for (int i : new int[] {-1, 5, 6, 7, 8, Integer.MIN_VALUE, Integer.MAX_VALUE}) s.is("danger(" + i + ", 0)", x.danger(i, 0), -1);
+        for (int m : new int[] {-1, 3, 4, 11, 12, Integer.MIN_VALUE, Integer.MAX_VALUE}) s.is("danger(0, " + m + ")", x.danger(0, m), -1);
         s.is("none such, where it could not be", x.danger(3, 3), -1);
     }
 
@@ -468,7 +468,10 @@ public final class SentencesOfActsTest {
         s.says("Refused: others");
         for (int n : new int[] {-1, 10, Integer.MIN_VALUE, Integer.MAX_VALUE}) refusedOf(0, n, (y, a, b) -> y.guard(a, b));
         for (int m : new int[] {-1, 12, Integer.MIN_VALUE, Integer.MAX_VALUE}) refusedOf(m, 1, (y, a, b) -> y.guard(a, b));
-        s.refused("behind the last", Twins::some, y -> y.guard(4, 1), -1);
+        for (int m = 4; m < 12; m++) {
+            int at = m;
+            s.refused("behind the last, " + m, Twins::some, y -> y.guard(at, 1), -1);
+        }
     }
 
     private static void plant() {
@@ -488,7 +491,10 @@ public final class SentencesOfActsTest {
         s.says("NONE: others");
         for (int n : new int[] {-1, 0, 10, Integer.MIN_VALUE, Integer.MAX_VALUE}) refusedOf(0, n, (y, a, b) -> y.plant(a, b));
         for (int m : new int[] {-1, 12, Integer.MIN_VALUE, Integer.MAX_VALUE}) refusedOf(m, 1, (y, a, b) -> y.plant(a, b));
-        s.refused("behind the last", Twins::some, y -> y.plant(4, 1), -1);
+        for (int m = 4; m < 12; m++) {
+            int at = m;
+            s.refused("behind the last, " + m, Twins::some, y -> y.plant(at, 1), -1);
+        }
     }
 
     private static void gate() {
@@ -508,7 +514,10 @@ public final class SentencesOfActsTest {
         s.is("made again", x.gate(1), 2);
         s.says("Refused: none such");
         for (int m : new int[] {-1, 12, Integer.MIN_VALUE, Integer.MAX_VALUE}) for (Twins.Maker maker : MAKERS) s.refused("gate(" + m + ")", maker, y -> y.gate(m), -1);
-        s.refused("behind the last", Twins::some, y -> y.gate(4), -1);
+        for (int m = 4; m < 12; m++) {
+            int at = m;
+            s.refused("behind the last, " + m, Twins::some, y -> y.gate(at), -1);
+        }
     }
 
     private static void weeks() {
@@ -590,6 +599,12 @@ public final class SentencesOfActsTest {
         s.is("no such MILE, gate()", logged("w1glw1", 1, 1, 1).count(5), 1);
         s.is("one by one: a GATE that was taken away", logged("gbpb4", 2, 0, 0).mile(1, 0), 4);
         s.is("one by one: MEN ahead of WEEKS", logged("ma8w3", 2, 0, 0).count(5), 3);
+        s.is("one by one: each as all is then", logged("pa1pa2gbgb", 4, 0, 0).mile(0, 0), 8);
+        ThornHedge ruled = Checks.made("0", "01");
+        Checks.text(ruled, "9").rule();
+        Checks.text(ruled, "15").rule();
+        s.is("by THE RULE", Checks.text(ruled, "w3").log(), 1);
+        s.row("by THE RULE", ruled, 0, 0);
         s.says("the ROW: 1 if one was refused, else 0");
         logged("w1pb1", 1, 1, 1);
         logged("pb1", 0, 1, 0);

@@ -19,7 +19,8 @@ public final class SentencesOfQuestionsTest {
     /** Lands of all sorts; of each as many as wanted can be made alike. */
     private static final String[][] LANDS = {
         {"0", "01", "f", ""}, {"52G", "03;14;22;35;46", "frda", "h*5+g*10"}, {"3333", "11;01;12;02;19", "dr", "h*5+g*3"}, {"G9G", "35;39;01;21", "rf", "h*9+w"},
-        {"G1G2", "31;11;02;13;04;41;22;33", "fra", "h*7+g*9-n*3"}, {"99", "09;19;29;49", "d", ""}, {"GGG", "01;12;31;49", "r", "l*2+w"}, {"123", "01;01;01", "a", "(h>1)*12+g*6"}};
+        {"G1G2", "31;11;02;13;04;41;22;33", "fra", "h*7+g*9-n*3"}, {"99", "09;19;29;49", "d", ""}, {"GGG", "01;12;31;49", "r", "l*2+w"}, {"123", "01;01;01", "a", "(h>1)*12+g*6"},
+        {"573", "01;12;03;14;25", "dfr", "h*3+w"}, {"9G6G4", "05;16;07;31;42", "rd", "60-h*5"}, {"808", "03;13;23;33;43", "fa", "(w<4)*30+n*9"}, {"4646", "02;14;01", "frd", "l*9-w*2+h"}};
 
     private static ThornHedge land(int which) {
         return land(which, LANDS[which][1]);
@@ -36,6 +37,7 @@ public final class SentencesOfQuestionsTest {
             x.guard(0, 1);
         }
         if (which % 3 == 2) x.weeks(which);
+        if (which >= 8) x.price(1, 9 + which);
         // behind the WEEKS, so that whoever is there the land is the same
         Checks.text(x, band).carriers();
         return x;
@@ -187,7 +189,7 @@ public final class SentencesOfQuestionsTest {
                     }
                 }
                 s.is("land " + i + ", CHEAP " + cheap, x.keeps(), due);
-                s.is("land " + i + ", DEAR stays", x.count(4), 20);
+                s.is("land " + i + ", DEAR stays", x.count(4), land(i).count(4));
             }
         }
         s.is("10 by 3, 5 by 4: the least", Checks.made("52G", "03;14").keeps(), 6);
@@ -225,7 +227,7 @@ public final class SentencesOfQuestionsTest {
                 x.price(0, cheap);
                 tried.price(0, cheap);
                 s.is("land " + i + ", CHEAP " + cheap, x.tax(), bestTax(tried)[0]);
-                s.is("land " + i + ", DEAR stays", x.count(4), 20);
+                s.is("land " + i + ", DEAR stays", x.count(4), land(i).count(4));
             }
         }
         taxed("just their PURSE", "0", "", "1,30", 5, 30, 25, 0);
@@ -370,6 +372,7 @@ public final class SentencesOfQuestionsTest {
             }
         }
         s.is("the open one", Checks.made("G990", "01").thorns(5), 3);
+        s.is("the open one between others", Checks.made("505", "01").thorns(5), 1);
         s.says("of equal ones the first: it");
         s.is("all alike", Checks.made("G000", "01").thorns(5), 1);
         s.is("nobody", Checks.made("GG00", "").thorns(1), 2);
@@ -398,6 +401,11 @@ public final class SentencesOfQuestionsTest {
         }
         s.is("flood without rain", Checks.made("0", "29").walls(), 0);
         s.is("just where it is worth it", Checks.made("32", "01").walls(), 1);
+        ThornHedge priced = Checks.made("32", "01");
+        priced.price(1, 21);
+        s.is("as DEAR is now", priced.walls(), 2);
+        priced.price(1, 15);
+        s.is("as DEAR is now, nowhere", priced.walls(), 0);
         s.says("the ROW: they (bits: of as few the least)");
         for (int i = 0; i < LANDS.length; i++) {
             ThornHedge x = land(i);
@@ -514,7 +522,10 @@ public final class SentencesOfQuestionsTest {
         s.is("no MILE where it can", Checks.made("G", "09").reward(0), 0);
         s.says("NONE: none such");
         for (int c : new int[] {-1, 8, Integer.MIN_VALUE, Integer.MAX_VALUE}) for (Twins.Maker maker : MAKERS) s.refused("reward(" + c + ")", maker, x -> x.reward(c), -1);
-        s.refused("behind the last", Twins::some, x -> x.reward(5), -1);
+        for (int c = 5; c < 8; c++) {
+            int at = c;
+            s.refused("behind the last, " + c, Twins::some, x -> x.reward(at), -1);
+        }
     }
 
     /** The land without those CARRIERS who were paid: they do not GO, and change nothing. */
@@ -1004,7 +1015,7 @@ public final class SentencesOfQuestionsTest {
         s.is("beyond ints, row(0)", x.row(0), 3486784401L);
         s.is("beyond ints, row(1)", x.row(1), 10000000000L);
         s.says("NoSuchElementException: none such");
-        for (int i : new int[] {-1, 2, 11, 12, Integer.MIN_VALUE, Integer.MAX_VALUE}) s.thrown("row(" + i + ") of two", () -> x.row(i));
+        for (int i : new int[] {-1, 2, 3, 11, 12, Integer.MIN_VALUE, Integer.MAX_VALUE}) s.thrown("row(" + i + ") of two", () -> x.row(i));
         s.thrown("of none", () -> new ThornHedge().row(0));
         for (Twins.Maker maker : MAKERS) s.refused("nothing changes", maker, y -> y.row(12), Twins.THROWN);
     }

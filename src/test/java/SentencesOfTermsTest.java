@@ -223,8 +223,8 @@ public final class SentencesOfTermsTest {
         risk(Checks.times("1+", 19) + "12", 31);
         fault(Checks.times("1+", 19) + "123", 40);
         s.says("EXPRESSION: < > = bind least (two; 1 or 0; not one behind the other)");
-        String[] rules = {"1+1<3", "3>1+1", "2*3=6", "4-3=1", "6=2*3", "4<5", "5<5", "6<5", "4>5", "5>5", "6>5", "4=5", "5=5", "6=5", "-1<0"};
-        int[] due = {1, 1, 1, 1, 1, 1, 0, 0, 0, 0, 1, 0, 1, 0, 1};
+        String[] rules = {"1+1<3", "3>1+1", "2*3=6", "4-3=1", "6=2*3", "4<5", "5<5", "6<5", "4>5", "5>5", "6>5", "4=5", "5=5", "6=5", "-1<0", "(5<4)+7", "(4>5)+7", "(4=5)+7", "(4<5)+7", "(5>4)+7", "(5=5)+7"};
+        int[] due = {1, 1, 1, 1, 1, 1, 0, 0, 0, 0, 1, 0, 1, 0, 1, 7, 7, 7, 8, 8, 8};
         for (int i = 0; i < rules.length; i++) risk(rules[i], due[i]);
         for (String a : new String[] {"<", ">", "="}) {
             for (String b : new String[] {"<", ">", "="}) {

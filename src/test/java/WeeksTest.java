@@ -110,19 +110,19 @@ public final class WeeksTest {
         int[][] due = {{8, 0, 0, 0, 4}, {9, 1, 1, 1, 5}, {9, 1, 0, 1, 5}, {8, 0, 0, 0, 4}, {8, 0, 0, 0, 4}, {7, 0, 0, 0, 3}, {8, 1, 1, 1, 4}, {8, 1, 0, 1, 4}};
         for (int w = 0; w < due.length; w++) {
             x.weeks(1);
-            for (int m = 0; m < 5; m++) c.due("week " + w + ", mile " + m, x.mile(m, 0), due[w][m]);
+            for (int m = 0; m < 5; m++) c.due("18: WEEK " + w + ", mile " + m, x.mile(m, 0), due[w][m]);
         }
         ThornHedge nine = Checks.made("99", "");
         Checks.text(nine, "r").weather();
         nine.weeks(2);
-        c.due("week: nine at most", nine.count(9), 18);
+        c.due("18: WEEK, nine at most", nine.count(9), 18);
         // each as all is then: the first camels open mile 0 for the baskets behind them
         ThornHedge y = Checks.made("3", "01;11;01");
-        c.due("week: the second baskets follow the camels", y.goes(), 6);
+        c.due("18: WEEK, the second baskets follow the camels", y.goes(), 6);
         y.weeks(1);
-        c.due("week: two less", y.mile(0, 0), 1);
+        c.due("18: WEEK, two less", y.mile(0, 0), 1);
         y.weeks(1);
-        c.due("week: 0 at least", y.mile(0, 0), 0);
+        c.due("18: WEEK, 0 at least", y.mile(0, 0), 0);
     }
 
     private static void promise19Faults() {
